@@ -737,6 +737,7 @@ public final class CarrierNet {
         static final int STANDS = SHOPS + 1;
         static final int SETS = 1 << SHOPS;
         static final int FIRST_WALK = 10;
+        static final int ENDLESS = 1000000;
         static final int SIGN_BITS = 4;
         static final int SIGN_MASK = 15;
 
@@ -808,7 +809,7 @@ public final class CarrierNet {
             if (set == 0) {
                 return walks[stand * STANDS];
             }
-            int least = Integer.MAX_VALUE;
+            int least = ENDLESS;
             for (int shop = 1; shop <= SHOPS; shop++) {
                 if ((set & bitOf(shop)) != 0) {
                     least = Math.min(least, wayBy(stand, shop, set));

@@ -151,7 +151,7 @@ public final class CompareTest {
     }
 
     private boolean carrierCall() {
-        switch (random.nextInt(22)) {
+        switch (random.nextInt(24)) {
             case 0: return alike(0, weekdays(), in(0, 23), in(0, 50), in(0, 20), place());
             case 1: return alike(1, cartNumber(), place(), in(1, 60));
             case 2: return alike(2, cartNumber(), weekdays(), in(0, 50), in(0, 20));
@@ -169,6 +169,7 @@ public final class CompareTest {
             case 17: return alike(11, place());
             case 18: return alike(12, cartNumber());
             case 19: case 20: return alike(13, cartNumber(), dayAsked());
+            case 21: case 22: return alike(3, cartNumber(), plain.now / 24 + in(1, 3));
             default: return alike(19, in(0, 7));
         }
     }
