@@ -587,7 +587,7 @@ public final class CarrierNet {
             for (int place = 0; place < PLACES; place++) {
                 links[place] = 1 << place;
             }
-            for (int round = 0; round < PLACES; round++) {
+            for (int pass = 0; pass < PLACES; pass++) {
                 if (!growLinks()) {
                     return;
                 }

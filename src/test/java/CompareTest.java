@@ -1,10 +1,17 @@
-import java.util.NoSuchElementException;
+import java.lang.reflect.InvocationTargetException;
+import java.lang.reflect.Method;
+import java.util.Arrays;
+import java.util.HashMap;
+import java.util.Map;
 import java.util.Random;
 
 /** Random runs of calls, the same ones every time, on CarrierNet and on PlainNet: the answers must be alike. */
 public final class CompareTest {
     private static final int[] WILD = {-1, -2, Integer.MIN_VALUE, Integer.MAX_VALUE, 12, 13, 24, 51, 61, 128,
         301, 501, 5001, 6001, 1000000};
+
+    private static final Map<String, Method> NET = methodsOf(CarrierNet.class);
+    private static final Map<String, Method> PLAIN = methodsOf(PlainNet.class);
 
     private final Random random;
     private final CarrierNet net = new CarrierNet();
@@ -33,77 +40,37 @@ public final class CompareTest {
         return kind == 0 ? least : kind == 1 ? most : least + random.nextInt(most - least + 1);
     }
 
-    private static long answer(CarrierNet x, int call, int[] a) {
-        switch (call) {
-            case 0: return x.cart(a[0], a[1], a[2], a[3], a[4]);
-            case 1: return x.stop(a[0], a[1], a[2]);
-            case 2: return x.change(a[0], a[1], a[2], a[3]) ? 1 : 0;
-            case 3: return x.snow(a[0], a[1]) ? 1 : 0;
-            case 4: return x.runs(a[0], a[1]);
-            case 5: return x.soon(a[0], a[1], a[2]);
-            case 6: return x.reach(a[0], a[1], a[2]);
-            case 7: return x.cut(a[0], a[1], a[2]);
-            case 8: return x.parcel(a[0], a[1], a[2]);
-            case 9: return x.tick(a[0]);
-            case 10:
-                try {
-                    return x.told(a[0], a[1]);
-                } catch (NoSuchElementException e) {
-                    return -1000;
-                }
-            case 11: return x.waiting(a[0]);
-            case 12: return x.fares(a[0]);
-            case 13: return x.room(a[0], a[1]);
-            case 14: return x.walk(a[0], a[1], a[2]) ? 1 : 0;
-            case 15: return x.errand(a[0], a[1], a[2]) ? 1 : 0;
-            case 16: x.clear(); return 0;
-            case 17: return x.best(a[0], a[1]);
-            case 18: return x.round(a[0], a[1]);
-            default: return x.count(a[0]);
-        }
-    }
-
-    private static long answer(PlainNet x, int call, int[] a) {
-        switch (call) {
-            case 0: return x.cart(a[0], a[1], a[2], a[3], a[4]);
-            case 1: return x.stop(a[0], a[1], a[2]);
-            case 2: return x.change(a[0], a[1], a[2], a[3]) ? 1 : 0;
-            case 3: return x.snow(a[0], a[1]) ? 1 : 0;
-            case 4: return x.runs(a[0], a[1]);
-            case 5: return x.soon(a[0], a[1], a[2]);
-            case 6: return x.reach(a[0], a[1], a[2]);
-            case 7: return x.cut(a[0], a[1], a[2]);
-            case 8: return x.parcel(a[0], a[1], a[2]);
-            case 9: return x.tick(a[0]);
-            case 10:
-                try {
-                    return x.told(a[0], a[1]);
-                } catch (NoSuchElementException e) {
-                    return -1000;
-                }
-            case 11: return x.waiting(a[0]);
-            case 12: return x.fares(a[0]);
-            case 13: return x.room(a[0], a[1]);
-            case 14: return x.walk(a[0], a[1], a[2]) ? 1 : 0;
-            case 15: return x.errand(a[0], a[1], a[2]) ? 1 : 0;
-            case 16: x.clear(); return 0;
-            case 17: return x.best(a[0], a[1]);
-            case 18: return x.round(a[0], a[1]);
-            default: return x.count(a[0]);
-        }
-    }
-
     private static final String[] NAMES = {"cart", "stop", "change", "snow", "runs", "soon", "reach", "cut", "parcel",
         "tick", "told", "waiting", "fares", "room", "walk", "errand", "clear", "best", "round", "count"};
 
+    private static Map<String, Method> methodsOf(Class<?> type) {
+        Map<String, Method> methods = new HashMap<>();
+        for (Method m : type.getDeclaredMethods()) {
+            methods.put(m.getName(), m);
+        }
+        return methods;
+    }
+
+    /** The answer as a text, or the name of what was thrown. */
+    private static String answer(Object net, Method method, int[] a) {
+        Object[] given = Arrays.stream(a).boxed().toArray();
+        try {
+            return String.valueOf(method.invoke(net, given));
+        } catch (InvocationTargetException e) {
+            return "throws." + e.getCause().getClass().getSimpleName();
+        } catch (IllegalAccessException e) {
+            throw new IllegalStateException(e);
+        }
+    }
+
     private boolean alike(int call, int... a) {
-        long got = answer(net, call, a);
-        long due = answer(plain, call, a);
-        story.append(NAMES[call]).append(java.util.Arrays.toString(a)).append(" = ").append(got).append('\n');
-        if (got != due) {
+        String got = answer(net, NET.get(NAMES[call]), a);
+        String due = answer(plain, PLAIN.get(NAMES[call]), a);
+        story.append(NAMES[call]).append(Arrays.toString(a)).append(" = ").append(got).append('\n');
+        if (!got.equals(due)) {
             System.out.println(story + "due is " + due);
         }
-        return got == due;
+        return got.equals(due);
     }
 
     private int weekdays() {
