@@ -1,56 +1,5 @@
-import java.util.NoSuchElementException;
-
 /** Each promise of the document by hand: ordinary inputs, the edges it names, and wrong inputs. */
-public final class PromiseTest {
-    private static final int NONE = CarrierNet.NONE;
-    private static final int THROWN = -1000;
-    private static final int LOW = Integer.MIN_VALUE;
-    private static final int HIGH = Integer.MAX_VALUE;
-    private static int wrong = 0;
-
-    private static void due(String what, long want, long got) {
-        if (want != got) {
-            wrong++;
-            System.out.println(what + ": answered " + got + ", due is " + want);
-        }
-    }
-
-    private static void yes(String what, boolean got) {
-        due(what, 1, got ? 1 : 0);
-    }
-
-    private static void no(String what, boolean got) {
-        due(what, 0, got ? 1 : 0);
-    }
-
-    private static int told(CarrierNet x, int parcel, int what) {
-        try {
-            return x.told(parcel, what);
-        } catch (NoSuchElementException e) {
-            return THROWN;
-        }
-    }
-
-    /** A parcel's answers 2 to 7 in one. */
-    private static void state(CarrierNet x, int parcel, int... want) {
-        for (int i = 0; i < want.length; i++) {
-            due("told(" + parcel + ", " + (i + 2) + ")", want[i], told(x, parcel, i + 2));
-        }
-    }
-
-    /** A cart with stops at places and offsets, in pairs behind the first place. */
-    private static int line(CarrierNet x, int[] terms, int place, int... stops) {
-        int cart = x.cart(terms[0], terms[1], terms[2], terms[3], place);
-        for (int i = 0; i + 1 < stops.length; i += 2) {
-            due("stop of a line", i / 2 + 2, x.stop(cart, stops[i], stops[i + 1]));
-        }
-        return cart;
-    }
-
-    private static int[] terms(int weekdays, int hour, int room, int fare) {
-        return new int[] {weekdays, hour, room, fare};
-    }
-
+public final class PromiseTest extends Checks {
     private static void p1NewObject() {
         CarrierNet x = new CarrierNet();
         for (int what = 0; what < 8; what++) {
@@ -319,12 +268,6 @@ public final class PromiseTest {
         due("stays", 5000, x.tick(0));
         due("wild", NONE, x.tick(HIGH));
         due("wild", NONE, x.tick(LOW));
-        ridesBySoonest();
-        ridesWhereThereIsRoom();
-        ridesToTheLastStopInTime();
-        ridesByCartsThenDays();
-        waitsForTheSoonest();
-        plansAnew();
     }
 
     private static void ridesBySoonest() {
@@ -732,32 +675,7 @@ public final class PromiseTest {
         due("wild", NONE, x.count(LOW));
     }
 
-    public static void main(String[] args) {
-        p1NewObject();
-        p2Cart();
-        p3Stop();
-        p4Change();
-        p5Snow();
-        p6Runs();
-        p7Soon();
-        p8Reach();
-        p9Cut();
-        p10Parcel();
-        p11Tick();
-        p12Told();
-        p13Waiting();
-        p14Fares();
-        p15Room();
-        p16Walk();
-        p17Errand();
-        p18Clear();
-        p19Best();
-        p20Round();
-        p21Count();
-        due("the constant", -1, CarrierNet.NONE);
-        System.out.println("PromiseTest: " + wrong + " answers are not as due");
-        if (wrong != 0) {
-            System.exit(1);
-        }
+    public static void main(String[] args) throws ReflectiveOperationException {
+        all(PromiseTest.class);
     }
 }
