@@ -6,7 +6,9 @@ public final class ErrandBoundaryTest extends Checks {
         for (int i = 0; i < want.length; i++) {
             due("round(" + within + ", " + i + ")", want[i], x.round(within, i));
         }
-        due("its end", NONE, x.round(within, want.length));
+        for (int i = want.length; i <= 8; i++) {
+            due("behind its end", NONE, x.round(within, i));
+        }
         due("how many", want.length, x.best(within, 2));
     }
 

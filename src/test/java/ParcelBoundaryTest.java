@@ -344,6 +344,49 @@ public final class ParcelBoundaryTest extends Checks {
         state(x, 0, 2, NONE, NONE, NONE, 505, 2);
     }
 
+    private static void itWaitsOnceTheWayIsLost() {
+        doc("if SOON is none: it waits");
+        CarrierNet x = new CarrierNet();
+        line(x, terms(2, 1, 5, 1), 0, 1, 1);
+        line(x, terms(4, 1, 5, 1), 1, 2, 1);
+        line(x, terms(EVERY_DAY, 1, 5, 1), 0, 5, 1);
+        x.parcel(0, 2, 1);
+        x.tick(1);
+        waits(x, 0, 0, 0);
+        yes("the cart from place 1 on goes no more", x.change(1, 0, 5, 1));
+        x.tick(200);
+        waits(x, 0, 0, 0);
+        yes("it goes again", x.change(1, 4, 5, 1));
+        x.tick(159);
+        waits(x, 0, 0, 0);
+        x.tick(1);
+        state(x, 0, NONE, 0, 15, 362, NONE, 1);
+    }
+
+    private static void inTimeForOneOfTwoRunsUnderWay() {
+        doc("it rides to the last such STOP");
+        // Cart 0 takes 30 hours, so two runs of it are under way at once; cart 1 is at place 0 at hours 24 and 30.
+        CarrierNet x = new CarrierNet();
+        line(x, terms(EVERY_DAY, 0, 5, 1), 0, 1, 30);
+        line(x, terms(1, 20, 5, 1), 5, 0, 4, 0, 10);
+        x.parcel(5, 1, 1);
+        x.tick(20);
+        // The next day's run leaves at 48, while the one that comes at 54 is under way.
+        state(x, 0, NONE, 1, 0, 24, NONE, 1);
+        CarrierNet y = new CarrierNet();
+        line(y, terms(EVERY_DAY, 0, 5, 1), 0, 1, 30);
+        line(y, terms(1, 20, 5, 1), 5, 0, 4, 0, 52, 0, 53);
+        line(y, terms(64, 0, 5, 1), 1, 2, 1);
+        y.parcel(5, 2, 1);
+        y.tick(20);
+        // Cart 2 leaves at 144, so the run of day 4, at hour 96, is the last in time.
+        state(y, 0, NONE, 1, 0, 73, NONE, 1);
+        y.tick(53);
+        waits(y, 0, 0, 1);
+        y.tick(23);
+        state(y, 0, NONE, 0, 4, 126, NONE, 2);
+    }
+
     private static void snowOnTheDayItWouldRide() {
         doc("SOON from here NOW");
         CarrierNet x = new CarrierNet();

@@ -175,6 +175,18 @@ public final class SoonBoundaryTest extends Checks {
         due("day 1's run at its third", 84, x.soon(0, 49, 1));
     }
 
+    private static void oneIsOnNoLaterRunOfTheCart() {
+        doc("A RIDE: from a STOP of a RUN to a later one of it.");
+        CarrierNet x = after(SoonBoundaryTest::threeStops);
+        line(x, terms(64, 20, 5, 1), 2, 0, 1);
+        // Only the weekly cart brings back to place 0, however often the daily one has begun there.
+        due("who rode with the daily one", 165, x.soon(1, 0, 0));
+        due("who stands where it ends", 165, x.soon(2, 0, 0));
+        due("not by the hour ahead", 6, x.reach(1, 0, 164));
+        due("by then", 7, x.reach(1, 0, 165));
+        due("from the last place, not by the hour ahead", 4, x.reach(2, 0, 164));
+    }
+
     // ---- promise 8 ----
 
     private static void reachByTheVeryHour() {
