@@ -20,16 +20,27 @@ abstract class Checks {
         void tell(CarrierNet x);
     }
 
-    private static final String DOCUMENT = document();
+    private static final String RAW = document();
+    private static final String DOCUMENT = RAW.replaceAll("\\s+", " ");
     private static String sentence = "";
     private static int wrong = 0;
 
     private static String document() {
         try {
-            return Files.readString(Path.of("../shared/DOC.md")).replaceAll("\\s+", " ");
+            return Files.readString(Path.of("../shared/DOC.md"));
         } catch (IOException e) {
             throw new IllegalStateException("the tests are run in the project's directory, beside ../shared", e);
         }
+    }
+
+    /** The document's lines from one heading to another. */
+    static String section(String from, String to) {
+        int begin = RAW.indexOf(from);
+        int end = RAW.indexOf(to);
+        if (begin < 0 || end < begin) {
+            throw new IllegalStateException("the document has no section from " + from + " to " + to);
+        }
+        return RAW.substring(begin, end);
     }
 
     /** What follows tests this sentence; a sentence that the document no longer has must be read again. */
@@ -107,16 +118,18 @@ abstract class Checks {
     }
 
     private static boolean isTest(Method m) {
-        return Modifier.isStatic(m.getModifiers()) && m.getParameterCount() == 0 && !m.isSynthetic();
+        return Modifier.isStatic(m.getModifiers()) && m.getParameterCount() == 0 && m.getReturnType() == void.class
+            && !m.isSynthetic();
     }
 
-    /** Runs every static method of a class that takes nothing, so that none can be forgotten. */
+    /** Runs every static method of a class that takes and answers nothing, so that none can be forgotten. */
     static void all(Class<?> tests) throws ReflectiveOperationException {
         Method[] methods = tests.getDeclaredMethods();
         Arrays.sort(methods, Comparator.comparing(Method::getName));
         int run = 0;
         for (Method m : methods) {
             if (isTest(m)) {
+                sentence = "";
                 m.setAccessible(true);
                 m.invoke(null);
                 run++;

@@ -2,19 +2,11 @@ import java.lang.reflect.Constructor;
 import java.lang.reflect.Field;
 import java.lang.reflect.Method;
 import java.lang.reflect.Modifier;
-import java.util.Arrays;
 import java.util.Set;
 import java.util.TreeSet;
 
 /** The face is the document's and no more (LANGUAGE.md, rule 1), and dear calls make next to no objects. */
 public final class FaceTest {
-    private static final Set<String> FACE = new TreeSet<>(Arrays.asList(
-        "int cart(int,int,int,int,int)", "int stop(int,int,int)", "boolean change(int,int,int,int)",
-        "boolean snow(int,int)", "int runs(int,int)", "int soon(int,int,int)", "int reach(int,int,int)",
-        "int cut(int,int,int)", "int parcel(int,int,int)", "int tick(int)", "int told(int,int)",
-        "int waiting(int)", "int fares(int)", "int room(int,int)", "boolean walk(int,int,int)",
-        "boolean errand(int,int,int)", "void clear()", "int best(int,int)", "int round(int,int)",
-        "int count(int)"));
     private static int wrong = 0;
 
     private static void check(String what, boolean right) {
@@ -29,7 +21,20 @@ public final class FaceTest {
         for (Class<?> type : m.getParameterTypes()) {
             text.append(text.charAt(text.length() - 1) == '(' ? "" : ",").append(type);
         }
-        return text.append(')').toString();
+        text.append(") ");
+        for (Class<?> type : m.getExceptionTypes()) {
+            text.append(type.getSimpleName());
+        }
+        return text.toString();
+    }
+
+    private static Set<String> due() {
+        Set<String> due = new TreeSet<>();
+        for (Face face : Face.ofTheDocument().values()) {
+            due.add(face.typed());
+        }
+        check("the document tells twenty calls: " + due, due.size() == 20);
+        return due;
     }
 
     private static void face() {
@@ -43,7 +48,7 @@ public final class FaceTest {
             found.add(told(m));
             names.add(m.getName());
         }
-        check("the methods " + found, found.equals(FACE));
+        check("the methods " + found, found.equals(due()));
         for (Method m : CarrierNet.class.getDeclaredMethods()) {
             check("private with a public name: " + m, !Modifier.isPrivate(m.getModifiers()) || !names.contains(m.getName()));
         }

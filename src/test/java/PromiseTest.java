@@ -1,6 +1,7 @@
-/** Each promise of the document by hand: ordinary inputs, the edges it names, and wrong inputs. */
+/** Each promise of the document, quoted whole, by hand: ordinary inputs, the edges it names, and wrong inputs. */
 public final class PromiseTest extends Checks {
     private static void p1NewObject() {
+        doc("`CarrierNet()`: NOW 0, no CARTS.");
         CarrierNet x = new CarrierNet();
         for (int what = 0; what < 8; what++) {
             due("new count " + what, 0, x.count(what));
@@ -15,6 +16,8 @@ public final class PromiseTest extends Checks {
     }
 
     private static void p2Cart() {
+        doc("`int cart(int weekdays, int hour, int room, int fare, int place)`: A CART with a first STOP: its "
+            + "number. NONE: out of bounds (weekdays 0 .. 127), there are twelve.");
         CarrierNet x = new CarrierNet();
         int[][] bad = {{-1, 0, 0, 0, 0}, {128, 0, 0, 0, 0}, {0, -1, 0, 0, 0}, {0, 24, 0, 0, 0}, {0, 0, -1, 0, 0},
             {0, 0, 51, 0, 0}, {0, 0, 0, -1, 0}, {0, 0, 0, 21, 0}, {0, 0, 0, 0, -1}, {0, 0, 0, 0, 12},
@@ -31,6 +34,8 @@ public final class PromiseTest extends Checks {
     }
 
     private static void p3Stop() {
+        doc("`int stop(int cart, int place, int offset)`: A STOP behind the others of a CART: how many it has. NONE: "
+            + "no such CART, PLACE, OFFSET; it has six; a PARCEL is on it.");
         CarrierNet x = new CarrierNet();
         x.cart(127, 1, 5, 1, 0);
         due("no cart", NONE, x.stop(1, 0, 1));
@@ -66,6 +71,8 @@ public final class PromiseTest extends Checks {
     }
 
     private static void p4Change() {
+        doc("`boolean change(int cart, int weekdays, int room, int fare)`: Weekdays, ROOM and FARE of a CART are "
+            + "others. False: no such one, out of bounds, a PARCEL is on it.");
         CarrierNet x = new CarrierNet();
         line(x, terms(127, 1, 5, 1), 0, 1, 10);
         no("no cart", x.change(1, 1, 1, 1));
@@ -91,6 +98,8 @@ public final class PromiseTest extends Checks {
     }
 
     private static void p5Snow() {
+        doc("`boolean snow(int cart, int day)`: SNOW for a CART on a DAY. False: no such CART, the DAY is not behind "
+            + "that of NOW, above 300, told already; 100 were.");
         CarrierNet x = new CarrierNet();
         line(x, terms(127, 1, 5, 1), 0, 1, 10);
         no("no cart", x.snow(1, 5));
@@ -124,6 +133,7 @@ public final class PromiseTest extends Checks {
     }
 
     private static void p6Runs() {
+        doc("`int runs(int cart, int day)`: Whether a CART has a RUN on a DAY (0 .. 300) (1, 0). NONE: no such ones.");
         CarrierNet x = new CarrierNet();
         line(x, terms(1 | 64, 1, 5, 1), 0, 1, 10);
         due("no cart", NONE, x.runs(1, 0));
@@ -137,6 +147,8 @@ public final class PromiseTest extends Checks {
     }
 
     private static void p7Soon() {
+        doc("`int soon(int from, int hour, int to)`: SOON from a PLACE at an HOUR (0 .. 6,000). NONE: none, no such "
+            + "ones.");
         CarrierNet x = new CarrierNet();
         line(x, terms(127, 8, 5, 1), 0, 1, 2, 2, 5);
         line(x, terms(127, 10, 5, 1), 1, 3, 1);
@@ -173,6 +185,9 @@ public final class PromiseTest extends Checks {
     }
 
     private static void p8Reach() {
+        doc("`int reach(int from, int hour, int by)`: The PLACES that one can be at by an HOUR, from a PLACE at an "
+            + "HOUR on (0 .. 6,000 both; 336 behind at most), as bits. NONE: no such ones, the last ahead of the "
+            + "first.");
         CarrierNet x = new CarrierNet();
         line(x, terms(127, 8, 5, 1), 0, 1, 2, 2, 5);
         line(x, terms(1, 9, 5, 1), 11, 0, 1);
@@ -196,6 +211,8 @@ public final class PromiseTest extends Checks {
     }
 
     private static void p9Cut() {
+        doc("`int cut(int cart, int hour, int to)`: PLACES from which one can be at a PLACE, from an HOUR on, but "
+            + "could not without a CART, as bits. NONE: no such ones.");
         CarrierNet x = new CarrierNet();
         line(x, terms(127, 8, 5, 1), 0, 1, 2, 2, 5);
         line(x, terms(2, 3, 5, 1), 0, 2, 1);
@@ -235,6 +252,8 @@ public final class PromiseTest extends Checks {
     }
 
     private static void p10Parcel() {
+        doc("`int parcel(int from, int to, int size)`: A PARCEL: its number. NONE: no such PLACES, alike, size; "
+            + "there are 60.");
         CarrierNet x = new CarrierNet();
         due("alike", NONE, x.parcel(0, 0, 1));
         due("no place", NONE, x.parcel(12, 0, 1));
@@ -253,6 +272,7 @@ public final class PromiseTest extends Checks {
     }
 
     private static void p11Tick() {
+        doc("`int tick(int n)`: n HOURS (0 .. 500): NOW. NONE: n, NOW would be above 5,000.");
         CarrierNet x = new CarrierNet();
         due("-1", NONE, x.tick(-1));
         due("501", NONE, x.tick(501));
@@ -443,6 +463,10 @@ public final class PromiseTest extends Checks {
     }
 
     private static void p12Told() {
+        doc("`int told(int parcel, int what) throws NoSuchElementException`: Of a PARCEL: 0 where it goes, 1 size, 2 "
+            + "the PLACE it is at (NONE: on a RUN), 3 the CART it is on (NONE), 4 the DAY of that RUN (NONE), 5 the "
+            + "HOUR at which it leaves it (NONE), 6 the HOUR at which it has come (NONE), 7 RIDES that it began. "
+            + "NoSuchElementException: no such PARCEL, what.");
         CarrierNet x = new CarrierNet();
         line(x, terms(127, 1, 9, 1), 0, 1, 4);
         due("none yet", THROWN, told(x, 0, 0));
@@ -466,6 +490,7 @@ public final class PromiseTest extends Checks {
     }
 
     private static void p13Waiting() {
+        doc("`int waiting(int place)`: How many PARCELS are at a PLACE's inn that have not come. NONE: no such one.");
         CarrierNet x = new CarrierNet();
         line(x, terms(127, 1, 9, 1), 0, 1, 4);
         x.parcel(0, 1, 7);
@@ -483,6 +508,7 @@ public final class PromiseTest extends Checks {
     }
 
     private static void p14Fares() {
+        doc("`int fares(int cart)`: FARES of a CART. NONE: no such one.");
         CarrierNet x = new CarrierNet();
         line(x, terms(127, 1, 9, 20), 0, 1, 4);
         x.parcel(0, 1, 9);
@@ -502,6 +528,7 @@ public final class PromiseTest extends Checks {
     }
 
     private static void p15Room() {
+        doc("`int room(int cart, int day)`: ROOM left of a CART's RUN of a DAY, NOW. NONE: no such RUN.");
         CarrierNet x = new CarrierNet();
         line(x, terms(1 | 2 | 16, 1, 9, 1), 0, 1, 40);
         x.parcel(0, 1, 4);
@@ -527,6 +554,7 @@ public final class PromiseTest extends Checks {
     }
 
     private static void p16Walk() {
+        doc("`boolean walk(int one, int other, int minutes)`: WALK. False: no such SHOPS, alike, out of bounds.");
         CarrierNet x = new CarrierNet();
         x.errand(1, 0, 1);
         due("10 at first", 20, x.best(100, 1));
@@ -546,6 +574,8 @@ public final class PromiseTest extends Checks {
     }
 
     private static void p17Errand() {
+        doc("`boolean errand(int shop, int minutes, int worth)`: A SHOP (1 .. 8) of the list, told again: that. "
+            + "False: out of bounds.");
         CarrierNet x = new CarrierNet();
         no("inn", x.errand(0, 1, 1));
         no("shop 9", x.errand(9, 1, 1));
@@ -565,6 +595,7 @@ public final class PromiseTest extends Checks {
     }
 
     private static void p18Clear() {
+        doc("`void clear()`: The list is empty.");
         CarrierNet x = new CarrierNet();
         x.clear();
         x.errand(1, 5, 5);
@@ -581,6 +612,8 @@ public final class PromiseTest extends Checks {
     }
 
     private static void p19Best() {
+        doc("`int best(int within, int what)`: BEST: what 0 WORTH, 1 minutes, 2 how many SHOPS. NONE: out of bounds, "
+            + "what.");
         CarrierNet x = new CarrierNet();
         x.errand(1, 5, 10);
         x.errand(2, 5, 10);
@@ -613,6 +646,7 @@ public final class PromiseTest extends Checks {
     }
 
     private static void p20Round() {
+        doc("`int round(int within, int i)`: SHOP i of it (from 0 on). NONE without, out of bounds.");
         CarrierNet x = new CarrierNet();
         x.errand(1, 5, 10);
         x.errand(2, 5, 10);
@@ -653,6 +687,8 @@ public final class PromiseTest extends Checks {
     }
 
     private static void p21Count() {
+        doc("`int count(int what)`: 0 NOW, 1 CARTS, 2 PARCELS, 3 that have come, 4 on RUNS, 5 days of SNOW told, 6 "
+            + "FARES in all, 7 SHOPS of the list. NONE for others.");
         CarrierNet x = new CarrierNet();
         line(x, terms(127, 1, 9, 2), 0, 1, 4);
         line(x, terms(127, 1, 9, 3), 1, 2, 40);
