@@ -318,9 +318,7 @@ public final class CarrierNet {
             if (!cart.takesFrom(parcel.place, stop) || !cart.goesOn(day) || cart.roomLeft(day) < parcel.size) {
                 continue;
             }
-            if (!hasPlan(parcel)) {
-                return;
-            }
+            renewPlan(parcel);
             int last = cart.lastInTime(stop, day, parcel.latest);
             if (last != NONE) {
                 cart.load(day, parcel.size);
@@ -333,18 +331,23 @@ public final class CarrierNet {
     /**
      * A plan outlives the hour it was made in: who keeps to its latest hours still comes at the
      * same soonest hour, so it is made anew only when it was missed or the timetable is another.
+     * Who leaves later comes no sooner either: where one comes too late now, no hour is in time
+     * until that one is near enough.
      */
-    private boolean hasPlan(Parcel parcel) {
-        if (parcel.plannedBy == timetable.version && now <= parcel.latest[parcel.place]) {
-            return true;
+    private void renewPlan(Parcel parcel) {
+        boolean known = parcel.plannedBy == timetable.version;
+        if (known && (now < parcel.hopefulFrom || now <= parcel.latest[parcel.place])) {
+            return;
         }
-        int soonest = timetable.soonest(parcel.place, now, now + FAR, 1 << parcel.to);
-        if (soonest == NONE) {
-            return false;
-        }
-        timetable.findLatest(parcel.to, now, soonest, NONE, parcel.latest);
+        int end = now + 2 * FAR;
+        int soonest = timetable.soonest(parcel.place, now, end, 1 << parcel.to);
         parcel.plannedBy = timetable.version;
-        return true;
+        parcel.hopefulFrom = (soonest == NONE ? end + 1 : soonest) - FAR;
+        if (now < parcel.hopefulFrom) {
+            Arrays.fill(parcel.latest, NONE);
+        } else {
+            timetable.findLatest(parcel.to, now, soonest, NONE, parcel.latest);
+        }
     }
 
     private int countCome() {
@@ -473,6 +476,7 @@ public final class CarrierNet {
         int came = NONE;
         int rides = 0;
         int plannedBy = NONE;
+        int hopefulFrom = 0;
         final int[] latest = new int[PLACES];
 
         void give(int from, int newTo, int newSize) {

@@ -363,6 +363,118 @@ public final class ParcelBoundaryTest extends Checks {
         state(x, 0, NONE, 0, 15, 362, NONE, 1);
     }
 
+    /** Two carts from place 0 at hours 2 and 3 of each day; from place 1 none goes on until hour 672. */
+    private static CarrierNet longHopeless(int offset) {
+        CarrierNet x = new CarrierNet();
+        line(x, terms(EVERY_DAY, 2, 5, 1), 0, 1, 1);
+        line(x, terms(1, 0, 5, 1), 1, 2, offset);
+        line(x, terms(EVERY_DAY, 3, 5, 1), 0, 1, 1);
+        x.snow(1, 7);
+        x.snow(1, 14);
+        x.snow(1, 21);
+        x.parcel(0, 2, 1);
+        return x;
+    }
+
+    private static void itGoesInTheFirstHourInWhichSoonIsNotNone() {
+        doc("(if SOON is none: it waits)");
+        // It comes at 673, 674, 675: 336 hours ahead of that no cart, cart 0, cart 2 is at place 0.
+        int[] carts = {0, 0, 2};
+        for (int offset = 1; offset <= 3; offset++) {
+            CarrierNet x = longHopeless(offset);
+            x.tick(335 + offset);
+            x.parcel(0, 2, 1);
+            due("none, or as far as can be", 672 + offset, x.soon(0, 336 + offset, 2));
+            due("none an hour earlier", NONE, x.soon(0, 335 + offset, 2));
+            waits(x, 0, 0, 0);
+            x.tick(offset == 1 ? 2 : 1);
+            int leaves = offset == 3 ? 340 : 339;
+            state(x, 0, NONE, carts[offset - 1], 14, leaves, NONE, 1);
+            state(x, 1, NONE, carts[offset - 1], 14, leaves, NONE, 1);
+            x.tick(400);
+            state(x, 0, 2, NONE, NONE, NONE, 672 + offset, 2);
+        }
+    }
+
+    private static void ofTwoCartsInThatHourItTakesTheOneThatIsInTime() {
+        doc("(if SOON is none: it waits)");
+        CarrierNet x = new CarrierNet();
+        line(x, terms(EVERY_DAY, 2, 5, 1), 0, 5, 1);
+        line(x, terms(EVERY_DAY, 2, 5, 1), 0, 1, 1);
+        line(x, terms(1, 0, 5, 1), 1, 2, 2);
+        x.snow(2, 7);
+        x.snow(2, 14);
+        x.snow(2, 21);
+        x.parcel(0, 2, 1);
+        x.tick(337);
+        waits(x, 0, 0, 0);
+        x.tick(1);
+        state(x, 0, NONE, 1, 14, 339, NONE, 1);
+    }
+
+    private static void aWayThatIsLostIsNotTakenOnceThereIsHopeAgain() {
+        doc("the first one with a later STOP from which SOON to where it goes, at the HOUR it stops there, is SOON from "
+            + "here NOW");
+        CarrierNet x = new CarrierNet();
+        line(x, terms(EVERY_DAY, 5, 5, 1), 0, 5, 1);
+        line(x, terms(2, 6, 5, 1), 0, 8, 1);
+        line(x, terms(1, 0, 5, 1), 8, 2, 1);
+        line(x, terms(64, 0, 5, 1), 0, 7, 1);
+        line(x, terms(1, 0, 5, 1), 7, 2, 1);
+        int[][] snow = {{1, 1}, {2, 7}, {4, 7}, {4, 14}};
+        for (int[] s : snow) {
+            yes("snow", x.snow(s[0], s[1]));
+        }
+        x.parcel(0, 2, 1);
+        x.tick(6);
+        due("by places 0 and 8", 337, x.soon(0, 6, 2));
+        yes("none goes on from place 8", x.change(2, 0, 5, 1));
+        due("by place 7, too far", NONE, x.soon(0, 168, 2));
+        due("by place 7", 505, x.soon(0, 169, 2));
+        x.tick(192);
+        waits(x, 0, 0, 0);
+        x.tick(114);
+        state(x, 0, NONE, 3, 13, 313, NONE, 1);
+        x.tick(193);
+        state(x, 0, 2, NONE, NONE, NONE, 505, 2);
+    }
+
+    private static void itLooksAgainInTheHourBehindTheOneThatItMissed() {
+        doc("is SOON from here NOW");
+        // Cart 0 has it look at hour 3; parcel 0 takes the room of cart 1 at hour 5; cart 2 goes at hour 6.
+        CarrierNet x = new CarrierNet();
+        line(x, terms(EVERY_DAY, 3, 9, 1), 0, 5, 1);
+        line(x, terms(EVERY_DAY, 5, 1, 1), 0, 1, 1);
+        line(x, terms(EVERY_DAY, 6, 1, 1), 0, 1, 1);
+        x.parcel(0, 1, 1);
+        x.parcel(0, 1, 1);
+        x.tick(5);
+        state(x, 0, NONE, 1, 0, 6, NONE, 1);
+        waits(x, 1, 0, 0);
+        x.tick(1);
+        state(x, 1, NONE, 2, 0, 7, NONE, 1);
+    }
+
+    private static void itLooksAgainWhereTheRoomIsTaken() {
+        doc("and have ROOM for its size");
+        // Hopeless at first; then cart 1 goes each week, but parcel 0 takes its room.
+        CarrierNet x = new CarrierNet();
+        line(x, terms(EVERY_DAY, 5, 9, 1), 0, 5, 1);
+        line(x, terms(0, 6, 5, 1), 0, 2, 1);
+        x.parcel(0, 2, 5);
+        x.parcel(0, 2, 5);
+        x.tick(20);
+        waits(x, 1, 0, 0);
+        yes("it goes", x.change(1, 2, 5, 1));
+        x.tick(10);
+        state(x, 0, NONE, 1, 1, 31, NONE, 1);
+        waits(x, 1, 0, 0);
+        x.tick(167);
+        waits(x, 1, 0, 0);
+        x.tick(1);
+        state(x, 1, NONE, 1, 8, 199, NONE, 1);
+    }
+
     private static void inTimeForOneOfTwoRunsUnderWay() {
         doc("it rides to the last such STOP");
         // Cart 0 takes 30 hours, so two runs of it are under way at once; cart 1 is at place 0 at hours 24 and 30.
